@@ -179,6 +179,7 @@ public final class PagesTest {
         due.is("weight(10, 0): none left", x.weight(10, 0), -2);
         due.is("told(20)", x.told(20), 1);
         due.is("told(12)", x.told(12), 0);
+        due.is("weight(10, 10): ten in all, but above nine", x.weight(10, 10), -2);
         due.is("weight(10, 9)", x.weight(10, 9), 1);
     }
 
