@@ -51,9 +51,9 @@ final class Edge {
         WhereverBegun x = made();
         is(call, Script.call(x, call), want);
         if (before == null) {
-            before = Portrait.of(made(), callsGiven());
+            before = Portrait.of(made(), Script.calls(given));
         }
-        String after = Portrait.of(x, callsGiven() + 1);
+        String after = Portrait.of(x, Script.calls(given) + 1);
         if (!after.equals(before)) {
             is(call + " changes something of " + before + " to " + after, 0, 1);
         }
@@ -83,14 +83,6 @@ final class Edge {
             }
         }
         return x;
-    }
-
-    private int callsGiven() {
-        int calls = 0;
-        for (String call : given) {
-            calls += call.startsWith("text(") ? call.length() - "text()".length() : 1;
-        }
-        return calls;
     }
 
     void is(String what, long got, long want) {

@@ -179,6 +179,7 @@ public final class EdgePacksTest implements Answers {
         // the other image stays
         edge.taken("image(0)", 1, "restore(1) = 1", "told(1) = 4", "told(2) = 4", "told(3) = 2", "told(7) = 1");
         edge.taken("image(1)", 1, "restore(0) = 1", "told(1) = 3", "told(2) = 2", "told(3) = 2", "told(7) = 1");
+        keptToTheLast();
         // a new one takes the place of the old one
         edge.given("court(3)", "image(0)", "court(4)");
         edge.taken("image(0)", 1, "court(9) = 4", "restore(0) = 1", "told(3) = 4");
@@ -186,6 +187,22 @@ public final class EdgePacksTest implements Answers {
         edge.given("text(123)");
         edge.taken("image(0)", 1, "wipe() = 3", "restore(0) = 1", "told(0) = 0", "fault() = 0");
         edge.taken("image(0)", 1, "page() = 3", "restore(0) = 1", "told(0) = 0", "told(1) = 1");
+    }
+
+    /** The last of the places, of the weights and of the sights are kept as the first are. */
+    private static void keptToTheLast() {
+        edge.given("text(" + "1".repeat(39) + "7)", "page()");
+        edge.taken("image(0)", 1, "say(49) = 1", "page() = 1", "restore(0) = 1", "told(1) = 40", "place(0, 0) = 49",
+            "place(38, 0) = 49", "place(39, 0) = 55");
+        edge.given("weight(1, 0)", "weight(9, 4)", "weight(10, 5)");
+        edge.taken("image(1)", 1, "weight(9, 0) = 4", "weight(10, 0) = 5", "weight(1, 3) = 0", "restore(1) = 1",
+            "told(11) = 0", "told(12) = 1", "told(19) = 4", "told(20) = 5");
+        // the sixth sight is the one that tells
+        edge.page("?1?9", 1, "seen(3, 3)", "seen(3, 3)", "seen(3, 3)", "seen(3, 3)", "seen(3, 3)", "seen(0, 3)");
+        edge.asked("fits()", 5);
+        edge.taken("image(0)", 1, "forget() = 6", "fits() = 9", "seen(2, 2) = 1", "seen(2, 2) = 2", "seen(2, 2) = 3",
+            "seen(2, 2) = 4", "seen(2, 2) = 5", "seen(2, 2) = 6", "fits() = 6", "restore(0) = 1", "told(7) = 6",
+            "fits() = 5");
     }
 
     private static String[] join(String[] first, String... second) {

@@ -76,8 +76,9 @@ public final class EdgeSweepTest {
         String call = List.of(state) + " " + name + List.of(with);
         due.is(call, Script.call(x, name, with), want);
         if (want < 0 || !CHANGE.contains(name)) {
-            String before = Portrait.of(given(new WhereverBegun(), state), 0);
-            due.holds(call + " changes nothing", Portrait.of(x, 0).equals(before));
+            int calls = Script.calls(List.of(state));
+            String before = Portrait.of(given(new WhereverBegun(), state), calls);
+            due.holds(call + " changes nothing", Portrait.of(x, calls + 1).equals(before));
         }
     }
 }

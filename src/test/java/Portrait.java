@@ -41,14 +41,16 @@ final class Portrait {
     }
 
     private void table() {
+        int[] told = new int[21];
         for (int what = 1; what <= 20; what++) {
             if (what < 8 || what > 10) {
-                tell("told", x.told(what));
+                told[what] = x.told(what);
+                tell("told", told[what]);
             }
         }
-        signs(x.told(1));
+        signs(told[1]);
         tell("fits", x.fits());
-        for (int k = 0; k < x.told(6); k++) {
+        for (int k = 0; k < told[6]; k++) {
             for (int count = 1; count <= 3; count++) {
                 tell("upper", x.drawn(k, count, 0));
                 tell("lower", x.drawn(k, count, 1));

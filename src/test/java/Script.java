@@ -1,6 +1,7 @@
 import java.lang.reflect.InvocationTargetException;
 import java.lang.reflect.Method;
 import java.util.HashMap;
+import java.util.List;
 import java.util.Map;
 import java.util.regex.Matcher;
 import java.util.regex.Pattern;
@@ -46,6 +47,15 @@ final class Script {
         } catch (IllegalAccessException | InvocationTargetException e) {
             throw new IllegalStateException(name, e);
         }
+    }
+
+    /** How many calls of the class the texts make. */
+    static int calls(List<String> texts) {
+        int calls = 0;
+        for (String text : texts) {
+            calls += text.startsWith("text(") ? text.length() - "text()".length() : 1;
+        }
+        return calls;
     }
 
     private static long sayAll(Object on, String signs) {
