@@ -777,7 +777,7 @@ public final class WhereverBegun {
     private static final class Writing {
         final int[] kept = new int[MOST_FREE];
         private final int[] tried = new int[MOST_FREE];
-        private int[] counts;
+        private final int[] counts = new int[MOST_PLACES];
         private int places;
         private int beginnings;
         private int allowed;
@@ -790,7 +790,7 @@ public final class WhereverBegun {
         int leastRank;
 
         void seek(Row row, int allowedBits, int wished, int place, boolean bySoonest) {
-            counts = row.counts;
+            System.arraycopy(row.counts, 0, counts, 0, MOST_PLACES);
             places = row.places;
             beginnings = row.beginnings;
             allowed = allowedBits;
@@ -892,9 +892,9 @@ public final class WhereverBegun {
         private final int[] roots = new int[MOST_PLACES];
         private final int[] spots = new int[MOST_DRAWN];
         private final int[] needs = new int[MOST_DRAWN];
+        private final int[] weights = new int[MOST_COUNT + 1];
         private int many;
         private int places;
-        private int[] weights;
         private int weightOfAll;
         private int manyWeighed;
         private int askedSpot;
@@ -905,7 +905,7 @@ public final class WhereverBegun {
 
         void seek(Row row, Table table, int spot, int count) {
             places = row.places;
-            weights = table.weights;
+            System.arraycopy(table.weights, 0, weights, 0, MOST_COUNT + 1);
             weightOfAll = table.weightOfAll();
             manyWeighed = 0;
             for (int c = 1; c <= MOST_COUNT; c++) {

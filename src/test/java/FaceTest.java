@@ -31,6 +31,7 @@ public final class FaceTest {
         members();
         nested();
         text(Files.readString(Path.of(FILE)));
+        headings(Files.readString(Path.of(FILE)));
         due.end();
     }
 
@@ -109,6 +110,29 @@ public final class FaceTest {
             }
             due.holds(c + " has twenty fields at most", fields <= 20);
         }
+    }
+
+    /** What the interface says ahead of the calls; they stand in the document's order. */
+    private static void headings(String source) {
+        String[] firstCalls = {"say", "out", "likely", "write", "shuffle"};
+        String[] headings = {"1 pages", "2 streams", "3 chances", "4 writing, sights", "5 packs"};
+        int at = 0;
+        int heading = 0;
+        for (String method : METHODS) {
+            String name = method.substring(method.indexOf(' ') + 1, method.indexOf('('));
+            if (heading < firstCalls.length && name.equals(firstCalls[heading])) {
+                at = found(source, "\n    // ---- " + headings[heading] + "\n", at);
+                heading++;
+            }
+            at = found(source, "\n    public " + method.substring(0, method.indexOf('(') + 1), at);
+        }
+        due.is("headings", heading, headings.length);
+    }
+
+    private static int found(String source, String words, int from) {
+        int at = source.indexOf(words, from);
+        due.holds("in its order:" + words, at >= 0);
+        return Math.max(at, from);
     }
 
     private static void text(String source) {
