@@ -61,6 +61,34 @@ public final class PacksTest {
         due.is("wrong(0, 1) by court", x.wrong(0, 1), 0);
         x.court(2);
         due.is("wrong(0, 1) by court", x.wrong(0, 1), 100);
+        longerPacks();
+    }
+
+    /** Counted by another program, written from the document alone; not by the class or the oracle. */
+    private static void longerPacks() {
+        String rising = "12345678".repeat(5);
+        String cards = "TJQKA987654321".repeat(2);
+        wrongIs("31J2A4", 5, 0, 1, 23);
+        wrongIs("31J2A4", 5, 0, 5, 63);
+        wrongIs("31J2A4", 5, 5, 4, 66);
+        wrongIs("31J2A4", 2, 0, 1, 9);
+        wrongIs(rising, 5, 0, 1, 13);
+        wrongIs(rising, 5, 0, 9, 17);
+        wrongIs(rising, 5, 9, 0, 17);
+        wrongIs(rising, 5, 0, 39, 74);
+        wrongIs(rising, 5, 38, 39, 87);
+        wrongIs(cards, 10, 0, 1, 41);
+        wrongIs(cards, 10, 3, 20, 77);
+        wrongIs(cards, 1, 0, 1, 15);
+        wrongIs(cards, 1, 3, 20, 57);
+    }
+
+    private static void wrongIs(String text, int court, int a, int b, int want) {
+        WhereverBegun x = new WhereverBegun();
+        due.page(x, text);
+        x.court(court);
+        due.is("wrong(" + a + ", " + b + ") of " + text + ", court " + court, x.wrong(a, b), want);
+        pageIs(x, text);
     }
 
     private static void images() {
